@@ -15,6 +15,7 @@ public final class BoardsTest {
         feed();
         nightNumbers();
         nightFaults();
+        nightBehindFaults();
         nightDepths();
         nightLouds();
         told();
@@ -300,6 +301,19 @@ public final class BoardsTest {
         C.due("p10 nine clauses, together", x.told(3), 9);
         C.due("p10 a text of 100", Check.feed(x, nine + ";d"), 100);
         C.due("p10 a text of 100 ends too early", x.night(), -110);
+    }
+
+    private static void nightBehindFaults() {
+        OnTiptoe x = new OnTiptoe();
+        for (int i = 0; i < 10; i++) {
+            C.due("p10 a fault behind much", Check.night(x, "deep 9 !m=1&m<2|m=3;creak 9 x=2|x=3 "), -45);
+        }
+        C.due("p10 nothing of it is left", Check.night(x, "creak 1 x=2&!y=1"), 0);
+        C.due("p10 no deep clause is left", x.told(3), 8);
+        x.walker(0, 0, 0);
+        C.due("p10 no creak clause is left", x.of(0, 13), 3);
+        C.due("p10 it holds", x.of(0, 12), 4);
+        C.due("p10 it holds", x.of(0, 18), 3);
     }
 
     private static int depthBy(String text, int minute) {

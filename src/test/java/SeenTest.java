@@ -104,6 +104,16 @@ public final class SeenTest {
         y.put(0, 0);
         C.due("p26 awake", y.told(2), 1);
         oddsAre(y, "as if it slept", 1, 1);
+        OnTiptoe z = new OnTiptoe();
+        z.walker(0, 0, 0);
+        z.creak(0, 5);
+        z.creak(1, 5);
+        z.step(0, 1);
+        z.step(0, 0);
+        z.way(1);
+        z.way(0);
+        Check.night(z, "deep 8 m<12;deep 12 m=2");
+        oddsAre(z, "two STILL MINUTES at least, 10 of 12", 5, 6);
     }
 
     private static void meanIs(OnTiptoe x, String what, int board, long above, long below) {

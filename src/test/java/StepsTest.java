@@ -110,6 +110,18 @@ public final class StepsTest {
         x.way(-2);
         C.due("p16 asks go beyond", x.goes(0, 2), 9995);
         C.due("p17 asks go beyond", x.out(0), 10);
+        OnTiptoe y = withWalker(0, 0, 0);
+        for (int i = 0; i < 331; i++) {
+            y.still(30);
+        }
+        y.still(30);
+        C.due("p12 at 9960", y.step(0, 1), 3);
+        C.due("p13 at 9961", y.still(0), -3);
+        for (int i = 0; i < 30; i++) {
+            y.step(0, i % 2);
+        }
+        C.due("p12 at 9990 it was one more", y.told(0), 9991);
+        C.due("p12 at 9991", y.step(0, 0), -3);
     }
 
     private static void stillAndLull() {
@@ -263,6 +275,16 @@ public final class StepsTest {
         x.still(1);
         x.door(2);
         C.due("p17 at 18, 30", x.out(0), 24);
+        x.still(5);
+        x.door(3);
+        C.due("p17 31 is too late", x.out(0), -5);
+        OnTiptoe y = withWalker(0, 0, 0);
+        y.door(1);
+        y.creak(1, 9);
+        C.due("p17 9 is above 8", y.out(0), -5);
+        C.due("p22 9 is above 8", y.from(0), 2);
+        y.creak(1, 8);
+        C.due("p17 8 is not above 8", y.out(0), 1);
     }
 
     private static void quietIs(OnTiptoe x, String what, int noise, int steps) {

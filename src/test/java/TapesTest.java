@@ -75,8 +75,42 @@ public final class TapesTest {
         C.due("p32 the book", x.count(4), 1);
         C.due("p32 the book", x.looked(), 0);
         C.due("p32 again", x.undo(), 2);
+        imageKeepsRows();
         C.due("p31 another walker's number", x.walker(2, 5, 6), 2);
         C.due("p31 it is another one", x.of(2, 0), 2);
+    }
+
+    private static void imageKeepsRows() {
+        OnTiptoe x = new OnTiptoe();
+        x.walker(1, 6, 0);
+        x.walker(0, 0, 0);
+        Check.night(x, "deep 8 m<5;deep 6 m=5");
+        x.see(3, 5, true);
+        x.see(4, 1, false);
+        x.creak(4, 2);
+        x.way(1);
+        x.way(2);
+        x.book(8);
+        x.book(7);
+        C.due("p31", x.image(), 2);
+        C.due("p25", x.who(), 1);
+        x.see(-1, 0, true);
+        x.see(7, 1, false);
+        x.see(8, 2, true);
+        x.way(-1);
+        x.way(6);
+        x.book(-1);
+        x.book(7);
+        C.due("p32", x.undo(), 2);
+        C.due("p32 seen: where, when, whether it woke", x.who(), 1);
+        C.due("p32 seen", x.count(3), 2);
+        C.due("p32 the way", x.goes(1, 1), 2);
+        C.due("p32 the book", x.looked(), 1);
+        x.creak(3, 0);
+        C.due("p32 seen on BOARD 3", x.who(), 0);
+        x.creak(3, 3);
+        x.still(1);
+        C.due("p32 seen 5 MINUTES on", x.who(), 3);
     }
 
     private static void imageLeavesTheRest() {
