@@ -17,9 +17,11 @@ public final class OnTiptoe {
     private static final int WAY = 12, SEEN = 6, BOOK = 12, ODDS = 12;
     private static final int WAIT = -2;
     private static final int SILENT_DEPTH = 8, TOY_NOISE = 9;
+    /** Above all that a way can make of NOISE, together. */
+    private static final int LOUDEST = 1000000;
     /** As many STIRS wake the child. */
     private static final int WAKES = 3;
-    private static final int LONGEST = 30, MOST_STEPS = 8, MOST_SET = 20;
+    private static final int LONGEST = 30, MOST_STEPS = 8, MOST_SET = 20, MOST_DEEPER = 30;
     /** MINUTE counts only modulo 12, 3 and 4: after so many MINUTES all is as loud and deep again. */
     private static final int ROUND = 12;
     private static final int DEEP = 0, CREAKS = 1, HUSH = 2;
@@ -34,9 +36,7 @@ public final class OnTiptoe {
     private final Walker[] walkers = new Walker[WALKERS];
     private final Night[] nights = new Night[NIGHTS];
     private int nightCount;
-    private final byte[] text = new byte[TEXT];
-    private int textLength;
-    private final Reader reader = new Reader(text);
+    private final Reader reader = new Reader();
     private final Ways ways = new Ways();
     /** Who acted last, and so keeps THE TRACE; null: there is no TRACE. */
     private Walker actor;
@@ -141,33 +141,27 @@ public final class OnTiptoe {
         if (n < 0 || n > 9) {
             return BAD;
         }
-        if (!(one instanceof Told)) {
-            return STATE;
+        if (one instanceof Told told) {
+            int was = told.row[part];
+            told.row[part] = n;
+            return was;
         }
-        Told told = (Told) one;
-        int was = told.row[part];
-        told.row[part] = n;
-        return was;
+        return STATE;
     }
 
     public int feed(int sign) {
         if (sign < 0 || sign > 127) {
             return BAD;
         }
-        if (textLength < 0 || textLength >= TEXT) {
-            return FULL;
-        }
-        text[textLength] = (byte) sign;
-        textLength++;
-        return textLength;
+        return reader.addSign((byte) sign) ? reader.length : FULL;
     }
 
     public int night() {
         if (nightCount < 0 || nightCount >= NIGHTS) {
             return FULL;
         }
-        int fault = reader.readNight(textLength, nights[nightCount]);
-        textLength = 0;
+        int fault = reader.readNight(nights[nightCount]);
+        reader.length = 0;
         if (fault != NEVER) {
             return FAULTY - fault;
         }
@@ -349,12 +343,18 @@ public final class OnTiptoe {
             return NONE;
         }
         ways.learn(now, one);
-        for (int n = 0; n <= 30; n++) {
-            if (ways.fewest(one.board, now.minute, now.stirs, n) != NEVER) {
-                return n;
+        // Whoever comes out comes out as well if she sleeps deeper still, so halving finds the least.
+        int tooLittle = -1;
+        int enough = MOST_DEEPER + 1;
+        for (int i = 0; i <= MOST_DEEPER && enough - tooLittle > 1; i++) {
+            int n = (tooLittle + enough) / 2;
+            if (ways.fewest(one.board, now.minute, now.stirs, n) == NEVER) {
+                tooLittle = n;
+            } else {
+                enough = n;
             }
         }
-        return NEVER;
+        return enough > MOST_DEEPER ? NEVER : enough;
     }
 
     // ---- seen, odds, books
@@ -543,7 +543,7 @@ public final class OnTiptoe {
             case 4:
                 return now.bookCount;
             case 5:
-                return textLength;
+                return reader.length;
             case 6:
                 return actor == null ? 0 : actor.ranCount;
             default:
@@ -716,7 +716,7 @@ public final class OnTiptoe {
         }
     }
 
-    /** The BOARD that had best be mended (or rid of its TOY) for one whose ways are learnt; NEVER: none would help. */
+    /** The BOARD to be mended (or rid of its TOY) for one whose ways are learnt; NEVER: none would help. */
     private int bestChange(Walker one, boolean ofToys) {
         int best = ways.fewest(one.board, now.minute, now.stirs, 0);
         int bestBoard = NEVER;
@@ -862,7 +862,10 @@ public final class OnTiptoe {
         }
     }
 
-    /** CLAUSES, each with what it asks as a row of codes: a test (0 and above), or NOT, AND, OR behind what they join. */
+    /**
+     * CLAUSES, each with what it asks as a row of codes: a test (0 and above), or NOT, AND, OR behind
+     * what they join.
+     */
     static final class Night {
         private int clauses;
         private final int[] word = new int[CLAUSES];
@@ -950,23 +953,28 @@ public final class OnTiptoe {
         }
     }
 
-    /** Reads THE TEXT from the left on; where it can't go on, it stands at the FAULT. */
+    /** Keeps THE TEXT, and reads it from the left on; where it can't go on, it stands at the FAULT. */
     static final class Reader {
-        private final byte[] text;
-        private int length;
+        private final byte[] text = new byte[TEXT];
+        int length;
         private int at;
         private Night night;
 
-        Reader(byte[] text) {
-            this.text = text;
+        /** Whether there was room for it. */
+        boolean addSign(byte sign) {
+            if (length < 0 || length >= TEXT) {
+                return false;
+            }
+            text[length] = sign;
+            length++;
+            return true;
         }
 
-        /** Makes a NIGHT of the first so many bytes; NEVER, or the FAULT. */
-        int readNight(int textLength, Night into) {
+        /** Makes a NIGHT of THE TEXT; NEVER, or the FAULT. */
+        int readNight(Night into) {
             if (into == null) {
                 return 0;
             }
-            length = Math.min(textLength, text.length);
             at = 0;
             night = into;
             night.clear();
@@ -985,7 +993,7 @@ public final class OnTiptoe {
 
         /** The byte to be read next; -1 at the end. */
         private int sign() {
-            return at >= 0 && at < length && at < text.length ? text[at] : -1;
+            return at >= 0 && at < length && at < TEXT ? text[at] : -1;
         }
 
         private boolean skip(int expected) {
@@ -1097,7 +1105,10 @@ public final class OnTiptoe {
         private final int[] depth = new int[ROUND];
         private int stepMinutes;
         private int door;
-        /** The least STIRS with which it can be on a BOARD, by MINUTES gone, then by BOARD; fewer STIRS are never worse. */
+        /**
+         * The least STIRS with which it can be on a BOARD, by MINUTES gone, then by BOARD; more STIRS
+         * than those are never of use.
+         */
         private final int[] least = new int[(LONGEST + 1) * BOARDS];
         int goneTo;
         int goneMinute;
@@ -1139,7 +1150,7 @@ public final class OnTiptoe {
                 }
                 goneMinute += stepMinutes;
                 goneTo = next;
-                goneStirs = stirsAfter(next, goneMinute, goneStirs, 0);
+                goneStirs = stirsBehind(noiseAt(next, goneMinute), depth[Math.floorMod(goneMinute, ROUND)], goneStirs);
                 if (goneStirs >= WAKES) {
                     goneStirs = 0;
                     return i;
@@ -1161,25 +1172,25 @@ public final class OnTiptoe {
                 if (leastAt(gone, door) < WAKES) {
                     return gone;
                 }
+                int then = Math.floorMod(minute + gone + stepMinutes, ROUND);
                 for (int b = 0; b < BOARDS; b++) {
-                    spread(gone, b, minute, more);
+                    spread(gone, b, then, depth[then] + more);
                 }
             }
             return NEVER;
         }
 
-        /** Where one on a BOARD after so many MINUTES can be next. */
-        private void spread(int gone, int board, int minute, int more) {
+        /** Where one on a BOARD can be next; behind a STEP it is then (modulo ROUND), with that DEPTH. */
+        private void spread(int gone, int board, int then, int depthThen) {
             int stirs = leastAt(gone, board);
             if (stirs >= WAKES) {
                 return;
             }
             lower(gone + 1, board, Math.max(0, stirs - 1));
-            int then = gone + stepMinutes;
             for (int side = 0; side < SIDES; side++) {
                 int next = boardBeside(board, side);
                 if (isBoard(next)) {
-                    lower(then, next, stirsAfter(next, minute + then, stirs, more));
+                    lower(gone + stepMinutes, next, stirsBehind(noiseAt(next, then), depthThen, stirs));
                 }
             }
         }
@@ -1196,11 +1207,6 @@ public final class OnTiptoe {
             }
         }
 
-        private int stirsAfter(int board, int minute, int stirs, int more) {
-            int m = Math.floorMod(minute, ROUND);
-            return stirsBehind(noiseAt(board, m), depth[m] + more, stirs);
-        }
-
         private int noiseAt(int board, int minute) {
             int place = Math.floorMod(minute, ROUND) * BOARDS + board;
             return place >= 0 && place < noise.length ? noise[place] : 0;
@@ -1208,7 +1214,7 @@ public final class OnTiptoe {
 
         /** QUIET from a BOARD at a MINUTE; how much and how many STEPS are kept. */
         void seekQuietest(int board, int minute) {
-            quietNoise = Integer.MAX_VALUE;
+            quietNoise = LOUDEST;
             quietSteps = 0;
             seekOn(board, minute, 0, 0, 0);
         }

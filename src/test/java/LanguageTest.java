@@ -64,8 +64,8 @@ public final class LanguageTest {
         same("methods", methods, due);
         for (Class<?> c : allClasses()) {
             for (Method m : c.getDeclaredMethods()) {
-                if (Modifier.isPrivate(m.getModifiers())) {
-                    same("no private method bears a public one's name: " + m.getName(), publicNames.contains(m.getName()), false);
+                if (c != OnTiptoe.class || Modifier.isPrivate(m.getModifiers())) {
+                    same("no inner method bears a public one's name: " + m.getName(), publicNames.contains(m.getName()), false);
                 }
             }
         }
