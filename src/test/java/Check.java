@@ -13,6 +13,11 @@ final class Check {
         }
     }
 
+    /** Runs a block of lines, as told in Calls, on a new object: what a sentence of the document asks. */
+    void edge(String sentence, String block) {
+        Calls.run(this, sentence, block);
+    }
+
     boolean allRight() {
         return wrong == 0;
     }
