@@ -145,6 +145,20 @@ public final class WayOutEdgesTest {
             told 2 = 1
             door 7 = 11
             out 0 = 1
+            quiet 0 0..1 = 3 1
+            set 0 0..1 = 0 1
+            mend 0 = -5
+            away 0 = -5
+            from 0 = 4095
+            deeper 0 = 0
+            creak 7 9 = 3
+            mend 0 = 7
+            creak 7 3 = 9
+            toy 7 true = 0
+            away 0 = 7
+            from 0 = 128
+            deeper 0 = 4
+            told 0..2 = 1 0 1
             """);
     }
 
