@@ -335,6 +335,14 @@ public final class WayOutEdgesTest {
             toy 1 true = 0
             mend 0 = -5
             """);
+        C.edge("MEND: a CREAK of 1 becomes 0", """
+            walker 1 8 0 = 0
+            creak 0..11 0 = 3
+            creak 1 1 = 0
+            door 1 = 11
+            out 0 = -5
+            mend 0 = 1
+            """);
         C.edge("MEND: -5: no BOARD, as two would be to be mended", """
             walker 0 0 0 = 0
             creak 1 9 = 3
