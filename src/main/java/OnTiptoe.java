@@ -1057,20 +1057,26 @@ public final class OnTiptoe {
         }
 
         private boolean readFactor(int depth) {
-            int first = sign();
-            if (first != '!' && first != '(') {
-                return readTest();
+            switch (sign()) {
+                case '!':
+                    return depth < NESTED && readNot(depth + 1);
+                case '(':
+                    return depth < NESTED && readGroup(depth + 1);
+                default:
+                    return readTest();
             }
-            if (depth >= NESTED) {
-                return false;
-            }
+        }
+
+        private boolean readNot(int depth) {
             at++;
-            if (first == '(') {
-                return readEither(depth + 1) && skip(')');
-            }
-            boolean whole = readFactor(depth + 1);
+            boolean whole = readFactor(depth);
             night.addCode(NOT);
             return whole;
+        }
+
+        private boolean readGroup(int depth) {
+            at++;
+            return readEither(depth) && skip(')');
         }
 
         private boolean readTest() {
@@ -1216,26 +1222,27 @@ public final class OnTiptoe {
         void seekQuietest(int board, int minute) {
             quietNoise = LOUDEST;
             quietSteps = 0;
-            seekOn(board, minute, 0, 0, 0);
+            seekAt(board, minute, 1 << board, 0, 0);
         }
 
-        private void seekOn(int board, int minute, int been, int steps, int together) {
+        /** It is on a BOARD: at THE DOOR its way is over. */
+        private void seekAt(int board, int minute, int been, int steps, int together) {
             if (board == door) {
                 if (together < quietNoise || together == quietNoise && steps < quietSteps) {
                     quietNoise = together;
                     quietSteps = steps;
                 }
-                return;
+            } else if (steps < MOST_STEPS) {
+                seekBeside(board, minute + stepMinutes, been, steps + 1, together);
             }
-            if (steps >= MOST_STEPS) {
-                return;
-            }
-            int then = minute + stepMinutes;
-            int beenNow = been | 1 << board;
+        }
+
+        /** It leaves a BOARD by a STEP behind which it is then, with so many STEPS. */
+        private void seekBeside(int board, int then, int been, int steps, int together) {
             for (int side = 0; side < SIDES; side++) {
                 int next = boardBeside(board, side);
-                if (isBoard(next) && (beenNow >> next & 1) == 0) {
-                    seekOn(next, then, beenNow, steps + 1, together + noiseAt(next, then));
+                if (isBoard(next) && (been >> next & 1) == 0) {
+                    seekAt(next, then, been | 1 << next, steps, together + noiseAt(next, then));
                 }
             }
         }

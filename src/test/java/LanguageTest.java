@@ -29,6 +29,7 @@ public final class LanguageTest {
         face();
         shape();
         words();
+        recursion();
         C.end("LanguageTest");
     }
 
@@ -130,5 +131,25 @@ public final class LanguageTest {
                 length = Integer.MIN_VALUE / 2;
             }
         }
+    }
+
+    /** Rule 8 lets a method call itself if it is private and static; else only methods that call one another. */
+    private static void recursion() throws Exception {
+        Pattern head = Pattern.compile(" {4,8}((?:[\\w\\[\\]<>]+ )+)(\\w+)\\(.*\\) \\{");
+        String name = "";
+        boolean free = false;
+        int methods = 0;
+        for (String line : Files.readAllLines(Path.of("src/main/java/OnTiptoe.java"))) {
+            Matcher starts = head.matcher(line);
+            if (starts.matches()) {
+                name = starts.group(2);
+                free = starts.group(1).startsWith("private static ");
+                methods++;
+            } else if (!name.isEmpty()) {
+                boolean calls = Pattern.compile("(?<![\\w.])" + name + "\\(").matcher(line).find();
+                same(name + " calls itself", calls && !free, false);
+            }
+        }
+        same("methods were looked at", methods > 100, true);
     }
 }
